@@ -1391,9 +1391,12 @@ public final class WebBank {
         int faultKind = NONE;
         int faultPlace = NONE;
         private int length = 0;
-        private int tokens = 0;
-        private int current = 0;
+        private int place = 0;
+        private long value = 0;
         private int passedPlace = 0;
+        private int tokens = 0;
+        private int next = 0;
+        private boolean isWhole = false;
         private final byte[] bytes = new byte[MOST_BYTES];
         private final int[] kinds = new int[MOST_TOKENS];
         private final int[] places = new int[MOST_TOKENS];
@@ -1419,14 +1422,13 @@ public final class WebBank {
             tokens = 0;
             faultKind = 0;
             faultPlace = NONE;
-            int next = 0;
-            int latest = TOKEN_SIGN;
-            for (int i = 0; i < MOST_TOKENS && latest != TOKEN_END && latest != TOKEN_BAD; i++) {
-                next = scanToken(next);
-                latest = tokens > 0 && tokens <= MOST_TOKENS ? kinds[tokens - 1] : TOKEN_END;
+            int from = 0;
+            isWhole = false;
+            for (int i = 0; i < MOST_TOKENS && !isWhole; i++) {
+                from = scanToken(from);
             }
-            current = 0;
-            load();
+            next = 0;
+            advance();
         }
 
         private int byteAt(int i) {
@@ -1497,13 +1499,14 @@ public final class WebBank {
             return end;
         }
 
-        private void addToken(int newKind, int place, long value) {
+        private void addToken(int newKind, int newPlace, long newValue) {
             if (tokens >= 0 && tokens < MOST_TOKENS) {
                 kinds[tokens] = newKind;
-                places[tokens] = place;
-                values[tokens] = value;
+                places[tokens] = newPlace;
+                values[tokens] = newValue;
                 tokens++;
             }
+            isWhole = newKind == TOKEN_END || newKind == TOKEN_BAD;
         }
 
         private int knownWord(int start, int end) {
@@ -1530,34 +1533,28 @@ public final class WebBank {
             return true;
         }
 
-        private boolean hasCurrent() {
-            return current >= 0 && current < tokens && current < MOST_TOKENS;
-        }
-
-        private void load() {
-            kind = hasCurrent() ? kinds[current] : TOKEN_END;
-            word = hasCurrent() && kind == TOKEN_WORD ? (int) values[current] : NONE;
-        }
-
-        /* Nothing stands behind the end, nor behind a bad token. */
+        /* At the last token, the end or a bad one, it stays. */
         void advance() {
-            if (hasCurrent() && kind != TOKEN_END && kind != TOKEN_BAD) {
-                passed = values[current];
-                passedPlace = places[current];
-                current++;
-                load();
+            passed = value;
+            passedPlace = place;
+            if (next >= 0 && next < tokens && next < MOST_TOKENS) {
+                kind = kinds[next];
+                place = places[next];
+                value = values[next];
+                word = kind == TOKEN_WORD ? (int) value : NONE;
+                next++;
             }
         }
 
         boolean fail(int why) {
             faultKind = why;
-            faultPlace = hasCurrent() ? places[current] : length;
+            faultPlace = place;
             return false;
         }
 
         boolean failHere() {
             faultKind = kind == TOKEN_BAD ? FAULT_TOKEN : FAULT_PLACE;
-            faultPlace = hasCurrent() ? places[current] : length;
+            faultPlace = place;
             return false;
         }
 
@@ -1584,10 +1581,10 @@ public final class WebBank {
         }
 
         boolean passNumber(int least, int most) {
-            if (kind != TOKEN_NUMBER || !hasCurrent()) {
+            if (kind != TOKEN_NUMBER) {
                 return failHere();
             }
-            if (values[current] < least || values[current] > most) {
+            if (value < least || value > most) {
                 return fail(FAULT_NUMBER);
             }
             advance();
@@ -1595,7 +1592,7 @@ public final class WebBank {
         }
 
         boolean passSemicolon() {
-            if (kind != TOKEN_SIGN || !hasCurrent() || values[current] != ';') {
+            if (kind != TOKEN_SIGN || value != ';') {
                 return failHere();
             }
             advance();
@@ -1603,7 +1600,7 @@ public final class WebBank {
         }
 
         boolean passCompare() {
-            if (kind != TOKEN_SIGN || !hasCurrent() || values[current] == ';') {
+            if (kind != TOKEN_SIGN || value == ';') {
                 return failHere();
             }
             advance();
@@ -1948,7 +1945,10 @@ public final class WebBank {
             }
             if (kind == LOOP) {
                 enterLoop(plan, step);
-            } else if (!act(bank, plan, step)) {
+                return step + 1;
+            }
+            boolean isDone = kind == ANY ? dustOrWait(bank) : act(bank, plan, step);
+            if (!isDone) {
                 missed++;
             }
             return step + 1;
@@ -1990,8 +1990,7 @@ public final class WebBank {
                 case FAN: return bank.addSham(who, much) != NONE;
                 case DUST: return bank.wipe(who) != NONE;
                 case LOOK: return bank.exposeSham(who) != NONE;
-                case RUN: return payClients(bank);
-                default: return dustOrWait(bank);
+                default: return payClients(bank);
             }
         }
 

@@ -1164,12 +1164,15 @@ public final class WebBank {
         int comingWithout(int calmed) {
             int set = 0;
             int sums = 0;
-            for (int round = 0; round < clients; round++) {
+            boolean isGrowing = true;
+            for (int round = 0; round < clients && isGrowing; round++) {
+                isGrowing = false;
                 for (int client = 0; client < clients; client++) {
                     int one = 1 << client;
                     if (((set | calmed) & one) == 0 && nerve[client] <= sums) {
                         set |= one;
                         sums += sum[client];
+                        isGrowing = true;
                     }
                 }
             }

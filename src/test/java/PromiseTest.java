@@ -140,6 +140,9 @@ public final class PromiseTest {
         due("bottom() stays", x.bottom(), 4);
         promise = 4;
         x.dust(0);
+        x.year(1);
+        fraction(x, "share of 1", x.share(0), 1, 62);
+        x.dust(0);
         fraction(x, "share of none", x.share(0), 0, 1);
         fraction(x, "share of all", x.share(1), 1, 1);
         bank(x, "");
@@ -156,8 +159,10 @@ public final class PromiseTest {
         due("tray(3, 3, 60)", x.tray(3, 3, 60), true);
         due("read(3, 59)", x.read(3, 59), 0);
         x.write(3, 59, 7);
+        x.write(3, 0, 7);
         due("tray(3, 3, 60) again", x.tray(3, 3, 60), true);
         due("read(3, 59) of the new one", x.read(3, 59), 0);
+        due("read(3, 0) of the new one", x.read(3, 0), 0);
         x.write(3, 59, 7);
         refused(x, "tray(-1, 0, 1)", x.tray(-1, 0, 1), 1);
         refused(x, "tray(4, 0, 1)", x.tray(4, 0, 1), 1);
@@ -304,6 +309,15 @@ public final class PromiseTest {
         faultOfBank("odds  \n", 2, 7);
         faultOfBank("odds 3", 2, 6);
         faultOfBank("odds ;", 2, 5);
+        faultOfBank("cash ;", 2, 5);
+        faultOfBank("cash ann;", 2, 5);
+        faultOfBank("corner still ;", 2, 13);
+        faultOfBank("rank at ;", 2, 8);
+        faultOfBank("rank at 1 pay ;", 2, 14);
+        faultOfBank("client sum ;", 2, 11);
+        faultOfBank("client sum 1 nerve ;", 2, 19);
+        faultOfBank("corner still 1;clerk a in ;", 2, 26);
+        faultOfBank("corner still 1;clerk a in 0 served ;", 2, 35);
         faultOfBank("odds 3 4;", 2, 7);
         faultOfBank("odds 3 <", 2, 7);
         faultOfBank("corner 3;", 2, 7);
@@ -352,6 +366,9 @@ public final class PromiseTest {
             + "when looks bob > 99;end;when cash = 9999;stop;end;loop 99;loop 1;when cash<0;end;end;end;";
         due("all steps", decades(x, all), 15);
         due("30 steps", decades(x, times(30, "run;")), 30);
+        due("to the last corner", decades(x, "move ann 3;"), 1);
+        due("the least and the most", decades(x, "year 20;fan ann 1;loop 1;end;when looks ann<0;end;"
+            + "when rank ann=5;end;when cash=0;end;"), 6);
         due("300 bytes", decades(x, times(10, "loop 1;end;") + times(190, " ")), 10);
         due("an empty text", decades(x, ""), 0);
         due("live() of no steps", x.live(5), 0);
@@ -388,6 +405,8 @@ public final class PromiseTest {
         faultOfDecades("when cash > = 3;", 2, 12);
         faultOfDecades("dust bob;", 3, 5);
         faultOfDecades("swap ann bob;", 3, 9);
+        faultOfDecades("swap bob ann;", 3, 5);
+        faultOfDecades("look an;", 3, 5);
         faultOfDecades("when rank bob > 9;", 3, 10);
         faultOfDecades("year 0;", 4, 5);
         faultOfDecades("year 21;", 4, 5);
@@ -402,6 +421,16 @@ public final class PromiseTest {
         faultOfDecades("loop 1;loop 1;loop 1;" + times(27, "run;") + "loop", 6, 129);
         faultOfDecades("loop 1;when cash>1;loop 1;when", 7, 26);
         faultOfDecades("loop 1;end;when cash>1;loop 1;loop 1;end;loop 1;loop", 7, 48);
+    }
+
+    private static void nobodyNamesTheHired() {
+        promise = 11;
+        WebBank x = with("corner still 1;corner still 1;clerk ann in 0;");
+        x.hire(1);
+        for (char name = 'a'; name <= 'z'; name++) refused(x, "dust " + name, decades(x, "dust " + name + ";"), 9);
+        due("the named one", decades(x, "dust ann;move ann 1;"), 2);
+        due("live(0)", x.live(0), 2);
+        due("lived(0)", x.lived(0), 2);
     }
 
     private static void fault() {
@@ -879,6 +908,9 @@ public final class PromiseTest {
         x.write(0, 3, 100);
         refused(x, "grey 100", x.fits(0, 2), 5);
         due("behind the first twos all may be", x.fits(0, 1), 7);
+        x.write(0, 2, 100);
+        due("just behind them, too", x.fits(0, 1), 7);
+        x.write(0, 2, 12);
         x.write(0, 3, -1);
         refused(x, "grey -1", x.fits(0, 2), 5);
         x.write(0, 3, 1L << 32);
@@ -935,6 +967,9 @@ public final class PromiseTest {
         promise = 46;
         due("comesFor()", x.comesFor(), 36);
         due("nobody", with("").comesFor(), 0);
+        due("client 0, too", with(CLIENTS).comesFor(), 15);
+        due("one by one, from behind", with("client sum 1 nerve 3;client sum 1 nerve 2;client sum 1 nerve 1;"
+            + "client sum 1 nerve 0;").comesFor(), 4);
         promise = 47;
         x.rule(5, 36);
         due("calms() by as much cash", x.calms(), 0);
@@ -998,6 +1033,12 @@ public final class PromiseTest {
         due("11 halved is 5: a is kept", z.who(0, 2), 0);
         WebBank w = with("corner still 9;rank at 99 pay 0;clerk a in 0 grey 95;");
         due("99 at most", w.game(0, 1), 1);
+        due("one year, no more", with("corner still 4;rank at 8 pay 0;clerk a in 0;").game(0, 1), 0);
+        WebBank v = with("corner still 2;corner still 0;corner still 0;rank at 20 pay 0;clerk a in 0 grey 18;"
+            + "clerk b in 1 grey 20;clerk c in 2 grey 50;");
+        due("just AT counts", v.game(0, 0), 2);
+        due("v.game(0, 4)", v.game(0, 4), 2);
+        due("v.who(0, 4)", v.who(0, 4), 0);
         due("what one chose the other can't", w.game(0, 2), 1);
     }
 
@@ -1138,6 +1179,8 @@ public final class PromiseTest {
         WebBank z = living(of, "loop 9;year 1;when looks a > 3;stop;end;end;run;");
         due("stop", z.live(0), 1 + 4 * 2 + 1);
         lived(z, 0, 4, 0, 0, 0);
+        due("from the beginning again", z.live(0), 4);
+        lived(z, 0, 1, 0, 0, 0);
         y = living(of, "loop 99;run;run;end;loop 99;run;end;run;stop;run;");
         due("stop as the 301st", y.live(0), 300);
         due("lived(4)", y.lived(4), 1);
@@ -1167,6 +1210,18 @@ public final class PromiseTest {
         }
         for (int c = 0; c < 3; c++) due("clerk(" + c + ", 2)", x.clerk(c, 2), grey[c]);
         due("lived(1)", x.lived(1), years);
+        for (int odds = 0; odds <= 16; odds++) {
+            WebBank y = living("odds " + odds + ";corner still 1;clerk a in 0 grey 50;", "any;");
+            y.mark();
+            for (int seed = 0; seed < 40; seed++) {
+                int first = (seed * 3253 + 11471) % 65536;
+                int luck = (first * 3253 + 11471) % 65536 / 8 % 16;
+                y.live(seed);
+                due("seed " + seed + " by odds " + odds, y.told(9), luck < odds ? 0 : 51);
+                y.undo();
+                y.mark();
+            }
+        }
     }
 
     private static void livedLatest() {
@@ -1175,8 +1230,17 @@ public final class PromiseTest {
         refused(x, "lived(0) ahead of any", x.lived(0), 6);
         refused(x, "lived(5)", x.lived(5), 1);
         refused(x, "lived(-1)", x.lived(-1), 1);
+        due("year(1)", x.year(1), 5);
+        x.rule(5, 20);
         x.live(7);
+        // Three years are 15; client 0 is passed over, client 1 is paid.
         lived(x, 0, 3, 15, 5, 0);
+        due("of this one alone", x.live(7), 2);
+        lived(x, 0, 3, 0, 0, 0);
+        x.rule(5, 20);
+        x.live(7);
+        // 8 and 8; then ann can't be paid her 5, bob and cat are paid 3.
+        lived(x, 0, 3, 19, 0, 0);
         x.live(10000);
         x.mean(0, 3);
         x.year(1);
@@ -1184,7 +1248,7 @@ public final class PromiseTest {
         x.undo();
         bank(x, "");
         x.live(0);
-        lived(x, 0, 3, 15, 5, 0);
+        lived(x, 0, 3, 19, 0, 0);
         due("status()", x.status(), 0);
     }
 
@@ -1276,6 +1340,7 @@ public final class PromiseTest {
         bankFaults();
         decadesTaken();
         decadesFaults();
+        nobodyNamesTheHired();
         fault();
         told();
         cornerRankClerkClient();

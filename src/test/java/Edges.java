@@ -10,6 +10,8 @@ import java.util.List;
  */
 abstract class Edges {
     private static final Path DOC = Path.of("..", "shared", "DOC.md");
+    /** Behind the call that a promise begins with. */
+    private static final String HEAD = "): ";
 
     private static String part = "";
     private static String title = "";
@@ -29,31 +31,38 @@ abstract class Edges {
         try {
             return Files.readString(DOC).replace("```text", "").replace("`", "").replaceAll("\\s+", " ");
         } catch (IOException e) {
-            System.out.println("no " + DOC + ": " + e);
-            System.exit(1);
+            wrong("can't be read: " + e);
             return "";
         }
     }
 
-    private static void begin(String name, String text) {
+    private static void begin(String name, String before, String first, String behind) {
         end();
         title = name;
-        part = text;
-        isTested = new boolean[text.length()];
+        part = "";
+        if (!Files.exists(DOC)) {
+            System.out.println("no " + DOC + " here: whether the words of " + name + " stand there is not looked up");
+            return;
+        }
+        String doc = document();
+        int from = doc.indexOf(first, Math.max(0, doc.indexOf(before)));
+        int to = doc.indexOf(behind, from + first.length());
+        if (from < 0 || to < 0) {
+            wrong("does not stand in the document");
+            return;
+        }
+        part = doc.substring(first.equals(HEAD) ? from + HEAD.length() : from, to);
+        isTested = new boolean[part.length()];
     }
 
     /** The Terms from these words on, up to those. */
     static void terms(String first, String behind) {
-        String doc = document();
-        int from = doc.indexOf(first);
-        begin("Terms", doc.substring(from, doc.indexOf(behind, from)));
+        begin("Terms", "## Terms", first, behind);
     }
 
     /** A promise, without its heading and its call. */
     static void promise(int number) {
-        String doc = document();
-        int from = doc.indexOf("): ", doc.indexOf("## Promise " + number + ":")) + 3;
-        begin("Promise " + number, doc.substring(from, doc.indexOf("## ", from)));
+        begin("Promise " + number, "## Promise " + number + ":", HEAD, "## ");
     }
 
     /** Tells the words of the part that no test is named by. */
@@ -75,11 +84,15 @@ abstract class Edges {
     static void edge(String quoted, Runnable test) {
         words = quoted;
         tests++;
+        if (Files.exists(DOC)) lookUp(quoted);
+        test.run();
+    }
+
+    private static void lookUp(String quoted) {
         int at = part.indexOf(quoted);
         while (at >= 0 && isTested[at] && part.indexOf(quoted, at + 1) >= 0) at = part.indexOf(quoted, at + 1);
         if (at < 0) wrong("these words do not stand there");
         for (int i = at; i >= 0 && i < at + quoted.length(); i++) isTested[i] = true;
-        test.run();
     }
 
     static void tellAndExit() {

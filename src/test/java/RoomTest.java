@@ -4,6 +4,9 @@ import java.lang.management.ManagementFactory;
 /** A new object takes little room, and no call behind it takes any. */
 public final class RoomTest {
     private static final int MOST_BYTES_OF_ONE = 64 * 1024;
+    private static final int OBJECTS = 20;
+    /** A round is some 80 calls: no object has more than 512. */
+    private static final int ROUNDS = 5;
     private static final String BANK = "odds 8;cash 900;corner still 3;corner still 0;corner still 9;corner still 5;corner "
         + "still 1;corner still 2;corner still 4;rank at 10 pay 2;rank at 30 pay 5;clerk a in 0 grey 9 sham 4;clerk b in 1 "
         + "grey 29;clerk c in 2;clerk d in 3;clerk e in 4;client sum 10 nerve 0;client sum 5 nerve 10;";
@@ -49,10 +52,12 @@ public final class RoomTest {
         long before = taken();
         WebBank x = new WebBank();
         long one = taken() - before;
+        WebBank[] all = new WebBank[OBJECTS];
+        for (int i = 0; i < OBJECTS; i++) all[i] = new WebBank();
         before = taken();
-        for (int i = 0; i < 100; i++) callAll(x);
+        for (int i = 0; i < OBJECTS; i++) for (int round = 0; round < ROUNDS; round++) callAll(all[i]);
         long calls = taken() - before;
-        System.out.println("a new object takes " + one + " bytes, 100 rounds of all calls " + calls);
+        System.out.println("a new object takes " + one + " bytes, all rounds of all calls " + calls);
         if (one > MOST_BYTES_OF_ONE || calls > 1024) {
             System.out.println("that is too much");
             System.exit(1);

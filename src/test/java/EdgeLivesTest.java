@@ -30,13 +30,16 @@ public final class EdgeLivesTest extends Edges {
         edge("rank: its number and 1 more against 0 to 5 (0: he has none);", () -> {
             String of = "corner still 0;corner still 0;corner still 0;" + FIVE_RANKS
                 + "clerk a in 0;clerk b in 1 grey 1;clerk c in 2 grey 9;";
-            run(of, "when rank a=0;run;end;when rank b=1;run;end;when rank c=5;run;end;").gives("live(0)", 6);
-            run(of, "when rank a>0;run;end;when rank b=0;run;end;when rank b=2;run;end;when rank c=4;run;end;").gives("live(0)", 4);
+            for (String test : "a=0 a<1 b=1 b>0 b<2 c=5 c>4".split(" ")) run(of, "when rank " + test + ";run;end;").gives("live(0)", 2);
+            for (String test : "a>0 a=1 b=0 b=2 b<1 b>1 c=4 c<5 c>5".split(" ")) {
+                run(of, "when rank " + test + ";run;end;").gives("live(0)", 1);
+            }
             faultyDecades(of, "when rank a=6;", 4, 12);
         });
         edge("looks: 0 to 99;", () -> {
             String of = "corner still 0;corner still 0;clerk a in 0;clerk b in 1 grey 60 sham 60;";
-            run(of, "when looks a=0;run;end;when looks b=99;run;end;when looks b=60;run;end;").gives("live(0)", 5);
+            for (String test : "a=0 a<1 b=99 b>98".split(" ")) run(of, "when looks " + test + ";run;end;").gives("live(0)", 2);
+            for (String test : "a>0 a=1 b=60 b<99 b>99".split(" ")) run(of, "when looks " + test + ";run;end;").gives("live(0)", 1);
             faultyDecades(of, "when looks a=100;", 4, 13);
         });
         edge("cash: 0 to 9,999;", () -> {
@@ -85,8 +88,8 @@ public final class EdgeLivesTest extends Edges {
 
     private static void missed() {
         edge("What can't be is MISSED: YEARS beyond 9,999 (as a whole, by any, too),", () -> {
-            run(PAIR, "year 20;year 19;year 18;year 1;").years(9961).gives("live(0)", 4, "lived(0)", 2, "lived(1)", 38,
-                "told(6)", 9999);
+            run(PAIR, "year 20;year 19;year 17;year 2;year 1;year 1;").years(9961).gives("live(0)", 6, "lived(0)", 3,
+                "lived(1)", 38, "told(6)", 9999);
             run("odds 0;" + PAIR, "any;any;year 1;").years(9998).gives("live(0)", 3, "lived(0)", 2, "lived(1)", 1, "told(6)", 9999,
                 "clerk(0, 1)", 999);
         });
@@ -103,7 +106,7 @@ public final class EdgeLivesTest extends Edges {
             run(PAIR, "fan ann 50;fan ann 48;fan ann 50;fan ann 1;fan ann 50;").gives("live(0)", 5, "lived(0)", 2, "clerk(0, 3)", 99);
         });
         edge("a dust (by any, too) of who has no GREY, no SHAM,", () -> {
-            run(PAIR, "dust ann;fan ann 1;dust ann;year 1;dust ann;dust ann;").gives("live(0)", 6, "lived(0)", 2);
+            run(PAIR, "dust ann;fan ann 1;dust ann;year 1;dust ann;dust ann;dust ann;").gives("live(0)", 7, "lived(0)", 3);
             run("odds 16;" + CORNER + "clerk a in 0 grey 1;", "any;any;any;").gives("live(0)", 3, "lived(0)", 2, "lived(1)", 0);
             run("odds 16;" + CORNER + "clerk a in 0 sham 1;", "any;any;").gives("live(0)", 2, "lived(0)", 1);
         });
@@ -133,7 +136,8 @@ public final class EdgeLivesTest extends Edges {
                 "lived(1)", 1);
             run(PAIR, "loop 99;run;run;end;loop 98;run;end;year 1;").gives("live(0)", 299, "lived(4)", 0);
             run(PAIR, "loop 99;run;run;end;loop 99;run;end;run;year 1;").gives("live(0)", 300, "lived(1)", 0, "lived(4)", 1);
-            run(PAIR, "loop 99;loop 99;year 1;end;end;").gives("live(0)", 300, "lived(1)", 99 + 99 + 98, "lived(4)", 1);
+            run(PAIR, "loop 99;loop 99;year 1;end;end;").gives("live(0)", 300, "lived(1)", 99 + 99 + 98, "lived(4)", 1,
+                "live(0)", 300, "lived(1)", 99 + 99 + 98, "lived(4)", 1).withDecades("loop 2;year 1;end;").gives("live(0)", 3, "lived(4)", 0, "lived(1)", 2);
         });
         edge("(when, loop count as one each time they are come to from ahead; end does not).", () -> {
             run("", "when cash=100;end;when cash=0;run;end;").gives("live(0)", 2);
@@ -186,7 +190,10 @@ public final class EdgeLivesTest extends Edges {
             x.does("mark()", "year(3)", "move(0, 2)", "swap(0, 1)", "fan(1, 5)", "dust(0)", "run()", "hire(0)", "open(5, 5)",
                 "calm(0, 9)", "calm(1, 8)", "rule(4, 9)", "rule(5, 999)", "year(2)").withDecades("run;run;run;").does("undo()");
             if (!x.all().equals(before)) wrong("not as it was: " + x.all() + ", but " + before);
-            x.gives("live(0)", 2).does("mark()").withBank("odds 1;").gives("undo()", 0, "live(0)", 2, "told(2)", 2);
+            x.does("mark()").withBank("odds 1;corner still 9;rank at 7 pay 7;rank at 8 pay 8;rank at 9 pay 9;clerk zoe in 0;")
+                .withDecades("run;run;run;").does("undo()");
+            if (!x.all().equals(before)) wrong("not as it was: " + x.all() + ", but " + before);
+            x.gives("live(0)", 2, "told(2)", 2);
             x = run().gives("mark()", 1).withBank(of).withDecades("run;").gives("undo()", 0, "told(0)", 0, "told(5)", 100)
                 .refuses(6, "live(0)");
         });

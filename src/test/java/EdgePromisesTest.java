@@ -167,6 +167,7 @@ public final class EdgePromisesTest extends Edges {
                 .gives("feed(0, 0, 0, 0, 0)", 20);
         });
         edge("(1: above 300, too;", () -> {
+            run(BANK).gives("decades(0)", 0);
             Run x = run(BANK).refuses(1, "decades(-1)", "decades(1)", "decades(" + LOW + ")", "decades(" + FAR + ")");
             x.feed(" ".repeat(320));
             x.refuses(1, "decades(301)", "decades(320)", "decades(321)").gives("feed(0, 0, 0, 0, 0)", 340, "decades(300)", 0);
@@ -178,6 +179,8 @@ public final class EdgePromisesTest extends Edges {
             x = run(BANK);
             x.feed("year 3;year 21;");
             x.refuses(9, "decades(15)").refuses(6, "live(0)");
+            x.feed("loop 3;year 1;");
+            x.refuses(9, "decades(14)").withDecades("loop 2;loop 2;loop 2;run;end;end;end;").gives("live(0)", 15);
         });
         promise(12);
         edge("Of the latest bank() or decades() with STATUS 0 or 9,", () -> {
@@ -213,7 +216,8 @@ public final class EdgePromisesTest extends Edges {
                 "clerk(0, 6)", 1, "clerk(1, 6)", 1, "clerk(2, 6)", 1);
         });
         edge("GREY of all (9),", () -> run(BANK).gives("told(9)", 133).does("fan(0, 9)").gives("told(9)", 133));
-        edge("SUMS of all CLIENTS (10)", () -> run(BANK).gives("told(10)", 22).does("open(99, 999)").gives("told(10)", 121));
+        edge("SUMS of all CLIENTS (10)", () -> run(BANK).gives("told(10)", 22, "open(99, 999)", 3,
+            "told(10)", 121, "run()", 15, "told(10)", 106));
         edge("(1).", () -> refuses1(BANK, "told($)", -1, 11, FAR, LOW));
         promise(14);
         edge("Of a CORNER, what 0: STILL,", () -> run(BANK).gives("corner(0, 0)", 3, "corner(1, 0)", 0, "corner(3, 0)", 9));
@@ -233,6 +237,7 @@ public final class EdgePromisesTest extends Edges {
         edge("2: the set of CLERKS who are of it (1 for CLERK 0 ..)", () -> {
             run(BANK).gives("rank(0, 2)", 3, "rank(1, 2)", 0, "rank(2, 2)", 4).does("fan(1, 1)").gives("rank(0, 2)", 1,
                 "rank(1, 2)", 2).does("dust(0)", "dust(2)").gives("rank(0, 2)", 0, "rank(2, 2)", 0);
+            run("rank at 0 pay 1;rank at 1 pay 1;" + ONE).gives("rank(0, 2)", 1, "rank(1, 2)", 0);
         });
         edge("(1).", () -> {
             refuses1(BANK, "rank($, 0)", -1, 3, FAR, LOW);
@@ -394,6 +399,7 @@ public final class EdgePromisesTest extends Edges {
             run("cash 0;rank at 0 pay 1;" + ONE).gives("unpaidIn()", 1).does("year(5)").gives("unpaidIn()", 1);
             run("cash 98;rank at 0 pay 1;" + ONE).gives("unpaidIn()", 99);
             run("cash 5;rank at 3 pay 2;" + ONE).gives("unpaidIn()", 6);
+            run("cash 0;rank at 0 pay 1;" + ONE).does("year(5)", "rule(5, 3)").gives("told(7)", 5, "unpaidIn()", 4);
         });
         edge("(6: in none).", () -> {
             run("cash 99;rank at 0 pay 1;" + ONE).refuses(6, "unpaidIn()").does("year(1)").gives("unpaidIn()", 99);
@@ -586,8 +592,8 @@ public final class EdgePromisesTest extends Edges {
         });
         promise(55);
         edge("Of live() latest with STATUS 0 (whatever came behind it),", () -> {
-            run(ONE, "year 3;").gives("live(0)", 1).does("mark()", "live(-1)", "year(5)", "mean(0, 3)", "undo()").withDecades("run;")
-                .withBank("").refuses(6, "live(0)").gives("lived(1)", 3, "lived(0)", 0).withDecades("run;").gives("live(0)", 1,
+            run(ONE, "year 3;").gives("live(0)", 1).does("mark()", "live(-1)", "year(5)", "mean(0, 3)", "undo()").withDecades("run;run;")
+                .does("mean(0, 3)").gives("lived(1)", 3, "lived(0)", 0).withBank("").refuses(6, "live(0)").gives("lived(1)", 3, "lived(0)", 0).withDecades("run;").gives("live(0)", 1,
                 "lived(1)", 0, "lived(0)", 1);
         });
         edge("what 0: how many were MISSED, 1: YEARS,", () -> {
@@ -607,6 +613,8 @@ public final class EdgePromisesTest extends Edges {
             run(ONE, full + "run;when cash=100;run;end;").gives("live(0)", 300, "lived(4)", 1);
             run(ONE, full + "run;loop 9;end;").gives("live(0)", 300, "lived(4)", 0);
             run(ONE, "run;stop;run;").gives("live(0)", 2, "lived(4)", 0);
+            run(ONE, "loop 3;loop 2;year 1;end;stop;end;").gives("live(0)", 5, "lived(4)", 0, "lived(1)", 2, "live(0)", 5,
+                "lived(1)", 2);
         });
         edge("(1; 6: there was none).", () -> {
             for (int what : new int[] {-1, 5, FAR, LOW}) run(ONE, "run;").does("live(0)").refuses(1, "lived(" + what + ")");

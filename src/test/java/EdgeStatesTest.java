@@ -160,6 +160,9 @@ public final class EdgeStatesTest extends Edges {
         });
         edge("all CLERKS in CORNERS, no two in one,", () -> {
             run(corners(0, 2, 9) + clerks("", "")).gives("seating(3)", 33, "seatOf(3, 0)", 1, "seatOf(3, 1)", 2);
+            run(corners(0, 2, 9) + clerks("", "")).gives("seatOf(3, 1)", 2, "seatOf(0, 1)", 1, "seatOf(3, 0)", 1);
+            run(corners(9, 9, 9, 9) + clerks("", "", "", "")).gives("seating(9)", 324).withBank(corners(1, 0) + clerks("", ""))
+                .gives("seating(9)", 9);
             run(corners(0, 0, 0, 0, 0, 0, 9) + clerks("", "", "", "", "", "")).gives("seating(3)", 27, "seatOf(3, 5)", 6);
         });
         edge("who sits elsewhere than now MOVED now", () -> {
@@ -201,6 +204,9 @@ public final class EdgeStatesTest extends Edges {
             run("rank at 18 pay 1;" + corners(9, 2, 3, 1) + clerks("", "")).gives("soon(1, 0)", 6, "soonAt(1, 0)", 2,
                 "soon(0, 0)", 2, "soonAt(0, 0)", 0);
             run("rank at 18 pay 1;" + corners(0, 9) + clerks("", "")).refuses(6, "soon(0, 0)", "soonAt(0, 0)");
+            run("rank at 18 pay 1;" + corners(9, 3, 0) + "clerk a in 1;").gives("soon(0, 0)", 2, "soonAt(0, 0)", 0);
+            run("rank at 18 pay 1;" + corners(9, 3, 0) + "clerk a in 2;").gives("soon(0, 0)", 2, "soonAt(0, 0)", 0);
+            run("rank at 18 pay 1;" + corners(3, 0, 2, 0) + clerks("")).gives("soon(0, 0)", 6, "soonAt(0, 0)", 0);
         });
         edge("of several CORNERS that by which it is as soon his own, then the first", () -> {
             run("rank at 18 pay 1;" + corners(3, 3, 3) + "clerk a in 1;").gives("soonAt(0, 0)", 1);
@@ -246,6 +252,9 @@ public final class EdgeStatesTest extends Edges {
             run().gives("tray(0, 0, 41)", 1, "write(0, 40, 100)", 1, "fits(0, 20)", 10, "fits(0, 0)", 10)
                 .refuses(1, "fits(0, 21)", "fits(0, -1)");
             run().gives("tray(0, 0, 39)", 1, "fits(0, 19)", 10).refuses(3, "fits(0, 20)");
+            run().gives("tray(0, 0, 40)", 1, "write(0, 39, 100)", 1).refuses(5, "fits(0, 20)").gives("fits(0, 19)", 10);
+            run().gives("tray(0, 0, 4)", 1, "write(0, 2, 100)", 1, "write(0, 3, -1)", 1, "fits(0, 1)", 10, "ask(0, 1)", 1,
+                "fitsAt(0, 1, 9)", 9).refuses(5, "fits(0, 2)");
             run().gives("tray(0, 0, 4)", 1, "write(0, 2, 1)", 1, "write(0, 3, 99)", 1, "fits(0, 1)", 10, "fits(0, 2)", 0);
         });
         edge("how many STILLS (0 to 9) there are", () -> {
@@ -259,6 +268,8 @@ public final class EdgeStatesTest extends Edges {
             // 99 at most: by 20 years all from 5 on; by 12 years 96 is 8 alone.
             x.gives("write(0, 0, 20)", 1, "write(0, 1, 99)", 1, "fits(0, 1)", 5, "fitsAt(0, 1, 0)", 5, "write(0, 2, 12)", 1,
                 "write(0, 3, 96)", 1, "fits(0, 2)", 1, "fitsAt(0, 2, 0)", 8);
+            x.gives("write(0, 0, 12)", 1, "write(0, 1, 96)", 1, "write(0, 2, 20)", 1, "write(0, 3, 99)", 1, "fits(0, 2)", 1,
+                "fitsAt(0, 2, 0)", 8, "write(0, 3, 98)", 1, "fits(0, 2)", 0);
         });
         edge("ASK: the YEARS (1 to 20) by which these are parted the best: the most with one GREY are the fewest; of several the least.",
             () -> {
@@ -273,6 +284,8 @@ public final class EdgeStatesTest extends Edges {
             run("cash 0;client sum 9 nerve 0;client sum 9 nerve 9;").gives("calms()", 1, "calmSet()", 1);
             run("cash 0;client sum 9 nerve 0;client sum 9 nerve 0;").gives("calms()", 2, "calmSet()", 3);
             run("cash 0;" + "client sum 1 nerve 0;".repeat(8)).gives("calms()", 8, "calmSet()", 255);
+            // Without 0 and 1 nobody comes, but without 2 alone they are paid.
+            run("cash 20;client sum 10 nerve 0;client sum 10 nerve 0;client sum 50 nerve 10;").gives("calms()", 1, "calmSet()", 4);
         });
         edge("whatever others do,", () -> run("cash 5;client sum 9 nerve 5;client sum 5 nerve 0;").gives("calms()", 1, "calmSet()", 1));
         edge("so that those who COME then have SUMS together of no more than CASH;", () -> {
@@ -330,10 +343,15 @@ public final class EdgeStatesTest extends Edges {
             run(ranks + corners(1, 1, 1) + clerks("grey 70", "grey 20", "grey 19")).gives("game(0, 0)", 2, "game(1, 0)", 1,
                 "game(0, 1)", 3, "game(1, 1)", 1, "game(0, 2)", 2, "game(1, 2)", 1);
             run(ranks + corners(0, 9, 9) + clerks("grey 20", "grey 11", "grey 12")).gives("game(0, 1)", 2, "game(0, 3)", 2);
+            run(ranks + corners(1, 1, 1, 1, 1, 1) + clerks("grey 19", "grey 19", "grey 19", "grey 20", "grey 20", "grey 20"))
+                .gives("game(0, 0)", 3, "game(0, 1)", 4, "game(0, 2)", 3, "game(0, 3)", 4, "game(0, 4)", 3)
+                .withBank(ranks + corners(1) + clerks("grey 20")).gives("game(0, 0)", 1, "game(0, 4)", 1);
         });
         edge("WHO: the first's first CLERK, of all that are as good the first;", () -> {
             run(ranks + corners(1, 1, 1) + clerks("grey 18", "grey 19", "grey 19")).gives("who(0, 1)", 1, "who(0, 2)", 1);
             run(ranks + corners(1, 1) + clerks("grey 0", "grey 0")).gives("who(0, 1)", 0);
+            run(ranks + corners(0, 0) + clerks("grey 20", "grey 20")).gives("who(0, 2)", 0);
+            run(ranks + corners(0, 0) + clerks("grey 9", "grey 20")).gives("who(0, 2)", 1);
             run(ranks + corners(0, 0) + clerks("grey 99", "grey 20")).gives("who(0, 2)", 1);
         });
         edge("nothing comes last.", () -> {

@@ -169,6 +169,8 @@ public final class EdgeTextsTest extends Edges {
         });
         edge("No two CLERKS have one NAME.", () -> {
             faulty(TWO + "clerk ann in 0;clerk ann in 1;", 3, 51);
+            faulty(SEVEN + "clerk ann in 0;clerk bob in 1;clerk bob in 2;", 3, 141);
+            faulty(SEVEN + "clerk a in 0;clerk b in 1;clerk c in 2;clerk d in 3;clerk e in 4;clerk e in 5;", 3, 176);
             faulty(TWO + "clerk abcdefgh in 0;clerk abcdefgh in 1;", 3, 56);
             taken(TWO + "clerk abcdefgh in 0;clerk abcdefgi in 1;", TWO + "clerk bbcdefgh in 0;clerk abcdefgh in 1;",
                 TWO + "clerk a in 0;clerk aa in 1;", TWO + "clerk ab in 0;clerk ba in 1;", TWO + "clerk z in 0;clerk zz in 1;");
@@ -362,10 +364,17 @@ public final class EdgeTextsTest extends Edges {
             run(old).withBank(CORNER + "clerk bob in 0;").gives("told(0)", 1, "told(1)", 0, "told(2)", 1, "told(3)", 0,
                 "clerk(0, 0)", 0, "clerk(0, 1)", 0, "clerk(0, 2)", 0, "clerk(0, 3)", 0, "corner(0, 0)", 1);
         });
-        edge("it is YEAR 0,", () -> run(old).does("year(9)").gives("told(6)", 9).withBank(old).gives("told(6)", 0));
+        edge("it is YEAR 0,", () -> {
+            run(old).does("year(9)").gives("told(6)", 9).withBank(old).gives("told(6)", 0).does("year(9)", "cashIn(40)", "unpaidIn()")
+                .withBank(old).gives("told(6)", 0);
+        });
         edge("nobody is UNPAID, PAID anything;", () -> {
             run(old).does("year(9)").gives("told(7)", 8, "told(8)", 5).withBank(old).gives("told(7)", 0, "told(8)", 0,
                 "clerk(0, 5)", 0, "clerk(0, 6)", 0);
+            String two = old + "clerk bob in 0 grey 5;";
+            run(two).does("year(9)", "unpaidIn()", "cashIn(40)").withBank(two).gives("told(7)", 0, "told(8)", 0, "clerk(1, 5)", 0,
+                "clerk(1, 6)", 0).does("year(9)", "cashIn(40)").withBank(old).gives("told(7)", 0, "told(8)", 0, "told(9)", 20,
+                "hire(0)", 1, "clerk(1, 5)", 0, "clerk(1, 6)", 0, "told(7)", 0, "told(8)", 0);
         });
         edge("there are no DECADES.", () -> {
             run(old, "run;").withBank(old).refuses(6, "live(0)", "mean(0, 1)");
@@ -411,8 +420,8 @@ public final class EdgeTextsTest extends Edges {
             faultyDecades(PAIR, "when look ann < 3;", 2, 5);
         });
         edge("COMPARES: < or > or =", () -> {
-            run("cash 5;", "when cash<6;run;end;when cash<5;run;end;when cash>4;run;end;when cash>5;run;end;when cash=5;run;end;"
-                + "when cash=4;run;end;when cash=6;run;end;").gives("live(0)", 10, "lived(0)", 3);
+            for (String test : "<6 >4 =5".split(" ")) run("cash 5;", "when cash" + test + ";run;end;").gives("live(0)", 2);
+            for (String test : "<5 >5 =4 =6 <4 >6".split(" ")) run("cash 5;", "when cash" + test + ";run;end;").gives("live(0)", 1);
             faultyDecades(PAIR, "when cash < = 3;", 2, 12);
             faultyDecades(PAIR, "when cash ! 3;", 1, 10);
         });
@@ -477,6 +486,12 @@ public final class EdgeTextsTest extends Edges {
             faultyDecades(PAIR, "dust an;", 3, 5);
             faultyDecades(PAIR, "dust anna;", 3, 5);
             takenDecades(PAIR, "dust ann;dust bob;");
+            // Who was hired has no NAME.
+            for (char name = 'a'; name <= 'z'; name++) {
+                Run x = run(PAIR + CORNER).gives("hire(2)", 2);
+                x.feed("dust " + name + ";");
+                x.refuses(9, "decades(7)").gives("fault(0)", 3, "fault(1)", 5);
+            }
         });
         edge("4 a NUMBER that can't be", () -> {
             faultyDecades(PAIR, "year 0;", 4, 5);

@@ -158,7 +158,7 @@ abstract class Edges {
         for (int i = 0; i < all.length; i++) {
             if (i > 0) {
                 faultyEither(bank, text.toString(), text.length(), inDecades);
-                for (String other : "zzz at in 7 ; < =".split(" ")) {
+                for (String other : "zzz at in 7 59 61 ; < =".split(" ")) {
                     boolean isPerhaps = other.equals(";") && List.of("served", "grey", "sham").contains(all[i]);
                     if (!isPerhaps && !kindOf(other).equals(kindOf(all[i]))) {
                         faultyEither(bank, text + " " + other, text.length() + 1, inDecades);

@@ -54,6 +54,7 @@ public final class EdgePromisesTest extends Edges {
         edge("A TRAY is a row of so many 0s", () -> {
             Run x = run().gives("tray(1, 2, 3)", 1, "read(1, 0)", 0, "read(1, 2)", 0).refuses(3, "read(1, 3)");
             x.does("write(1, 0, 5)", "write(1, 2, 6)").gives("tray(1, 2, 3)", 1, "read(1, 0)", 0, "read(1, 2)", 0);
+            run().gives("tray(0, 3, 60)", 1, "read(0, 59)", 0, "tray(3, 0, 0)", 1);
             x.does("write(1, 2, 6)").gives("tray(1, 2, 1)", 1, "tray(1, 2, 3)", 1, "read(1, 2)", 0, "tray(1, 0, 0)", 1)
                 .refuses(3, "read(1, 0)");
         });
@@ -147,7 +148,7 @@ public final class EdgePromisesTest extends Edges {
         edge("The first n bytes of the tape (which is empty then) are the BANK: how many CLERKS", () -> {
             Run x = run();
             x.feed(BANK + "odds 3;");
-            x.gives("bank(" + BANK.length() + ")", 3).refuses(1, "bank(1)").gives("feed(0, 0, 0, 0, 0)", 20, "bank(0)", 0,
+            x.gives("bank(" + BANK.length() + ")", 3).refuses(6, "live(0)").refuses(1, "bank(1)").gives("feed(0, 0, 0, 0, 0)", 20, "bank(0)", 0,
                 "told(0)", 0, "feed(0, 0, 0, 0, 0)", 20).refuses(9, "bank(20)").gives("feed(0, 0, 0, 0, 0)", 20);
         });
         edge("(1: n below 0, or more than the tape has, too;", () -> {
@@ -407,7 +408,8 @@ public final class EdgePromisesTest extends Edges {
             run("cash 0;").refuses(6, "unpaidIn()");
         });
         promise(33);
-        edge("CASH in so many YEARS (0 to 40)", () -> run(BANK).gives("cashIn(0)", 20, "cashIn(1)", 15, "cashIn(4)", 0, "cashIn(40)", 0));
+        edge("CASH in so many YEARS (0 to 40)", () -> run(BANK).gives("cashIn(0)", 20, "cashIn(1)", 15,
+            "cashIn(4)", 0, "cashIn(40)", 0).does("rule(5, 9)").gives("cashIn(0)", 9, "cashIn(1)", 4, "told(5)", 9));
         edge("(1).", () -> refuses1(BANK, "cashIn($)", -1, 41, FAR, LOW));
     }
 
@@ -541,14 +543,21 @@ public final class EdgePromisesTest extends Edges {
                 .gives("calmSet()", 1).does("rule(5, 0)").gives("calmSet()", 1);
         });
         promise(49);
-        edge("GAME", () -> run(BANK).gives("game(0, 0)", 3, "game(1, 0)", 1, "game(2, 0)", 1, "game(0, 4)", 3));
+        String two = "rank at 20 pay 0;corner still 0;corner still 0;clerk a in 0 grey 20;clerk b in 1 grey 21;";
+        edge("GAME", () -> {
+            run(BANK).gives("game(0, 0)", 3, "game(1, 0)", 1, "game(2, 0)", 1, "game(0, 4)", 3);
+            run(two).gives("game(0, 1)", 2, "game(0, 2)", 1, "game(0, 4)", 1);
+        });
         edge("(1).", () -> {
             refuses1(BANK, "game($, 1)", -1, 3, FAR, LOW);
             refuses1(BANK, "game(0, $)", -1, 5, FAR, LOW);
         });
         promise(50);
-        edge("WHO", () -> run("rank at 3 pay 0;corner still 2;corner still 2;clerk a in 0;clerk b in 1 grey 1;").gives("who(0, 1)", 1,
-            "who(0, 4)", 1));
+        edge("WHO", () -> {
+            run("rank at 3 pay 0;corner still 2;corner still 2;clerk a in 0;clerk b in 1 grey 1;").gives("who(0, 1)", 1, "who(0, 4)", 1);
+            run(two).gives("who(0, 2)", 0);
+            run(two.replace("grey 20", "grey 40")).gives("who(0, 1)", 0, "who(0, 2)", 1, "game(0, 2)", 2);
+        });
         edge("(1: n 0, too;", () -> {
             refuses1(BANK, "who($, 1)", -1, 3, FAR, LOW);
             refuses1(BANK, "who(0, $)", 0, -1, 5, FAR, LOW);
@@ -655,6 +664,8 @@ public final class EdgePromisesTest extends Edges {
         promise(58);
         edge("All is taken back to the latest MARK: how many there are left", () -> {
             run(BANK).does("mark()", "year(1)", "mark()", "year(1)").gives("undo()", 1, "told(6)", 1, "undo()", 0, "told(6)", 0);
+            run(BANK, "run;any;").does("mark()").withDecades("run;").gives("undo()", 0, "live(0)", 2);
+            run(BANK).does("mark()").withDecades("run;").gives("undo()", 0).refuses(6, "live(0)");
         });
         edge("(6).", () -> run().refuses(6, "undo()").does("mark()").gives("undo()", 0).refuses(6, "undo()"));
     }

@@ -15,6 +15,15 @@ public final class EdgePromisesTest extends Edges {
         for (int number : numbers) run(bank).refuses(1, call.replace("$", "" + number));
     }
 
+    private static void calls() {
+        whatItIs();
+        edge("An object is used for at most 512 calls after it has been made; what later calls answer is free.", () -> {
+            Run x = run();
+            for (int call = 1; call <= 510; call++) x.does("year(1)");
+            x.gives("told(6)", 510);
+        });
+    }
+
     private static void newObject() {
         promise(1);
         edge("A BANK of nothing;", () -> {
@@ -671,6 +680,7 @@ public final class EdgePromisesTest extends Edges {
     }
 
     public static void main(String[] args) {
+        calls();
         newObject();
         statusAndFraction();
         trays();

@@ -60,6 +60,11 @@ abstract class Edges {
         begin("Terms", "## Terms", first, behind);
     }
 
+    /** What the document says ahead of the Terms of how long an object is used. */
+    static void whatItIs() {
+        begin("What it is", "## What it is", "An object is used", "## The public face");
+    }
+
     /** A promise, without its heading and its call. */
     static void promise(int number) {
         begin("Promise " + number, "## Promise " + number + ":", HEAD, "## ");

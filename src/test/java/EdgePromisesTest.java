@@ -627,6 +627,8 @@ public final class EdgePromisesTest extends Edges {
             run(ONE, full + "run;run;").gives("live(0)", 300, "lived(4)", 0);
             run(ONE, full + "run;run;run;").gives("live(0)", 300, "lived(4)", 1);
             run(ONE, full + "run;stop;run;").gives("live(0)", 300, "lived(4)", 0);
+            // A stop is a STEP, too: it is left by the 300.
+            run(ONE, full + "run;run;stop;").gives("live(0)", 300, "lived(4)", 1);
             run(ONE, full + "run;when cash=0;run;end;").gives("live(0)", 300, "lived(4)", 0);
             run(ONE, full + "run;when cash=100;run;end;").gives("live(0)", 300, "lived(4)", 1);
             run(ONE, full + "run;loop 9;end;").gives("live(0)", 300, "lived(4)", 0);

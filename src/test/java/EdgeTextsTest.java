@@ -397,6 +397,11 @@ public final class EdgeTextsTest extends Edges {
         edge("(none at first).", () -> run().refuses(6, "live(0)", "mean(0, 1)"));
         edge("DECADES: {STEP}.", () -> {
             run(PAIR, "run;dust ann;run;").gives("live(0)", 3);
+            // Any number of times: none will do, and these are DECADES like others.
+            for (String none : new String[] {"", " ", "\n \n"}) {
+                run(PAIR.replace("in 0", "in 0 grey 7"), "run;").withDecades(none).gives("fault(0)", 0, "live(0)", 0, "lived(0)", 0,
+                    "lived(4)", 0).givesFraction("mean(0, 3)", 7, 1);
+            }
             for (String word : "odds cash corner still rank at pay clerk in served grey sham client sum nerve looks zzz ann 7 ; <"
                     .split(" ")) {
                 faultyDecades(PAIR, word, 2, 0);
